@@ -764,7 +764,7 @@ public final class SkirmishGrid {
         private final int[] numbers = new int[EVENT_LIMIT];
         int count;
 
-        void record(int kind, int unit, int number) {
+        void note(int kind, int unit, int number) {
             if (count >= EVENT_LIMIT) {
                 count = EVENT_LIMIT - 1;
                 System.arraycopy(kinds, 1, kinds, 0, count);
@@ -948,7 +948,7 @@ public final class SkirmishGrid {
         /** Leaves the turn before the first one of the order. */
         private void beginRound() {
             round++;
-            events.record(ROUND_BEGAN, -1, round);
+            events.note(ROUND_BEGAN, -1, round);
             orderLength = 0;
             turn = -1;
             for (int number = 0; number < unitCount; number++) {
@@ -996,13 +996,13 @@ public final class SkirmishGrid {
             unit.isWatching = false;
             if (unit.burning > 0) {
                 unit.lose(BURN_LOSS);
-                events.record(BURNED, unit.number, BURN_LOSS);
+                events.note(BURNED, unit.number, BURN_LOSS);
             }
             if (unit.lives()) {
                 current = unit.number;
                 actions = unit.stunned > 0 ? 0 : TURN_ACTIONS;
             } else {
-                events.record(DIED, unit.number, 0);
+                events.note(DIED, unit.number, 0);
             }
         }
 
@@ -1087,14 +1087,14 @@ public final class SkirmishGrid {
             from.ammunition--;
             int result = rollDie(AIM_SIDES);
             if (!isHit(result, neededResult(from, to))) {
-                events.record(MISSED, from.number, to.number);
+                events.note(MISSED, from.number, to.number);
                 return 0;
             }
             int damage = damageOf(from, to, result, rollDie(DAMAGE_SIDES));
             to.lose(damage);
-            events.record(HIT, from.number, damage);
+            events.note(HIT, from.number, damage);
             if (!to.lives()) {
-                events.record(DIED, to.number, 0);
+                events.note(DIED, to.number, 0);
             }
             return damage;
         }
@@ -1125,7 +1125,7 @@ public final class SkirmishGrid {
                 int next = paths.next(grid, unit.cell);
                 isStopped = next < 0 || isStoppedIn(next, unit);
             }
-            events.record(MOVED, unit.number, unit.cell);
+            events.note(MOVED, unit.number, unit.cell);
             settle(unit);
             return unit.cell;
         }
@@ -1140,7 +1140,7 @@ public final class SkirmishGrid {
                 Unit other = units[number];
                 if (other.isWatching && other.ammunition > 0 && canStrike(other, unit)) {
                     other.isWatching = false;
-                    events.record(REACTED, number, unit.number);
+                    events.note(REACTED, number, unit.number);
                     if (strike(other, unit) > 0) {
                         return true;
                     }
@@ -1174,7 +1174,7 @@ public final class SkirmishGrid {
             }
             actions--;
             unit.grenades--;
-            events.record(THREW, unit.number, cell);
+            events.note(THREW, unit.number, cell);
             int hurt = 0;
             for (int number = 0; number < unitCount; number++) {
                 Unit other = units[number];
@@ -1190,10 +1190,10 @@ public final class SkirmishGrid {
         private void suffer(Unit unit) {
             unit.lose(BLAST_LOSS);
             if (!unit.lives()) {
-                events.record(DIED, unit.number, 0);
+                events.note(DIED, unit.number, 0);
             } else if (rollDie(6) >= 5 && unit.stunned == 0) {
                 unit.stunned = STUN_TURNS;
-                events.record(STUNNED, unit.number, STUN_TURNS);
+                events.note(STUNNED, unit.number, STUN_TURNS);
             }
         }
 

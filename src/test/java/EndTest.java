@@ -97,32 +97,22 @@ public final class EndTest {
         Check.raises("15 not in the new order", NoSuchElementException.class, () -> game.order(2));
     }
 
-    /** A sniper of 7 health that takes 5 and 2 more by fire: it dies before it gets its turn. */
+    /** A sniper of 7 health loses 5, and 2 more by fire: it dies before it gets its turn. */
     private static void deathAtTheBeginningOfATurn() {
-        boolean isFound = false;
-        for (int seed = 0; seed < 20000 && !isFound; seed++) {
-            SkirmishGrid game = Games.with(Games.on(".^./.../...", seed), Games.man(0, 3, 0), Games.man(1, 3, 2),
-                    Games.man(0, 2, 6));
-            if (game.begin() != 0 || game.order(1) != 1) {
-                continue;
-            }
-            game.move(1);
-            game.endTurn();
-            if (game.unit(0, 9) != 1 || game.attack(0) != 5 || game.unit(0, 3) != 2) {
-                continue;
-            }
-            game.endTurn();
-            game.endTurn();
-            if (game.order(0) != 0) {
-                continue;
-            }
-            isFound = true;
-            String events = Games.events(game);
-            Check.same("29 burnt to death", true, events.endsWith("9,-1,2 5,0,2 4,0,0"));
-            Check.same("27 the turn goes to the next one", game.order(1), game.current());
-            Check.same("10 its burning stays", 1, game.unit(0, 9));
-            Check.same("32 replayed", true, game.isReplayed());
-        }
-        Check.same("a unit burnt to death", true, isFound);
+        int seed = Games.seedWhere(6, 6, 6, 3, 6, 1, 20, 15, 4, 1, 6, 6, 6, 1, 6, 1);
+        SkirmishGrid game = Games.with(Games.on(".^./.../...", seed), Games.man(0, 3, 0), Games.man(1, 3, 2),
+                Games.man(0, 2, 6));
+        game.begin();
+        game.move(1);
+        game.endTurn();
+        game.attack(0);
+        Check.same("10 health", 2, game.unit(0, 3));
+        Check.same("10 burning", 1, game.unit(0, 9));
+        game.endTurn();
+        Check.same("27 the turn goes to the next one", 1, game.endTurn());
+        Check.same("15 the dead one is the first of the round", 0, game.order(0));
+        Check.same("29 burnt to death", "9,-1,1 1,0,1 2,1,5 9,-1,2 5,0,2 4,0,0", Games.events(game));
+        Check.same("10 its burning stays", 1, game.unit(0, 9));
+        Check.same("32 replayed", true, game.isReplayed());
     }
 }
