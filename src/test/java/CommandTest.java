@@ -222,6 +222,9 @@ public final class CommandTest {
         again.throwAt(12);
         Check.same("10 still 1", 1, again.unit(2, 8));
         Check.same("29 no second event", "9,-1,1 8,0,12 6,2,1 8,1,12", Games.events(again));
+        again.endTurn();
+        again.endTurn();
+        Check.same("10 the die after the one of the second grenade", 1 + 8, again.unit(0, 7));
     }
 
     private static void throwErrors() {
@@ -265,6 +268,7 @@ public final class CommandTest {
         Check.same("10 guards in the others' turns", 1, game.unit(0, 10));
         Check.same("10 watches in the others' turns", 1, game.unit(0, 11));
         Check.same("25 uses both", 2, game.watch());
+        Check.same("10 none is left", 0, game.unit(1, 6));
         game.endTurn();
         Check.same("11 guards no more", 0, game.unit(0, 10));
         Check.same("11 watches no more", 0, game.unit(0, 11));

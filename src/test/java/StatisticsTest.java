@@ -124,6 +124,13 @@ public final class StatisticsTest {
         Check.same("36 copied", Float.floatToIntBits(15f / 18f), game.storedBits(1, 2));
         Check.same("36 not copied", Float.floatToIntBits(1f), game.storedBits(1, 3));
         Check.same("35 no change", false, game.copyHealths(0, 3));
+        SkirmishGrid full = Games.with(new SkirmishGrid(), Games.man(0, 0, 0));
+        full.storeHealths(0, false);
+        Games.type(full, ".../.../...");
+        full.load(1);
+        full.addUnit(0, 1, 0);
+        full.storeHealths(1, false);
+        Check.same("35 equal shares of different healths", false, full.copyHealths(0, 1));
         SkirmishGrid dead = EndTest.wonBy(0);
         dead.storeHealths(0, false);
         dead.storeHealths(1, true);
