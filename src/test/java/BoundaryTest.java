@@ -38,7 +38,10 @@ public final class BoundaryTest {
         sight();
         cover();
         buffer();
+        text();
         errorPosition();
+        lastErrorPosition();
+        startsAnew();
         Check.finish();
     }
 
@@ -537,8 +540,43 @@ public final class BoundaryTest {
         Doc.due("above the edge", false, Games.on("..../#.../....", 1).isSeen(0, 9));
         Doc.due("behind the edge", false, Games.on("..../.#../....", 1).isSeen(9, 0));
         Doc.due("behind its end", true, Games.on("..../..../..#.", 1).isSeen(8, 9));
+        everyWall();
         Doc.says("A cell is seen from itself.");
         Doc.due("a wall too", true, game.isSeen(0, 0) && game.isSeen(7, 7));
+    }
+
+    /** Each wall of a grid of 6 rows and 5 columns against each line, as the sentence says it. */
+    private static void everyWall() {
+        for (int wall = 0; wall < 30; wall++) {
+            StringBuilder text = new StringBuilder("...../...../...../...../...../.....");
+            text.setCharAt(wall / 5 * 6 + wall % 5, '#');
+            for (int from = 0; from < 30; from++) {
+                SkirmishGrid game = Games.on(text.toString(), 1);
+                for (int to = 0; to < 30; to++) {
+                    boolean isSeen = wall == from || wall == to || !meets(from, to, wall);
+                    Doc.due("the wall " + wall + " between " + from + " and " + to, isSeen, game.isSeen(from, to));
+                }
+            }
+        }
+    }
+
+    /**
+     * Whether a line has a point in the inside of a wall: the points of the line where it could enter or leave it
+     * lie at halves of a row or column, and between two such points next to each other it is inside or not.
+     */
+    private static boolean meets(int from, int to, int wall) {
+        int down = to / 5 - from / 5;
+        int right = to % 5 - from % 5;
+        // 120 parts of the line: a line over 1 to 5 rows meets its halves at parts of 60, 30, 20, 15 and 12.
+        for (int part = 0; part < 120; part++) {
+            double middle = (part + 0.5) / 120;
+            double row = from / 5 + middle * down - wall / 5;
+            double column = from % 5 + middle * right - wall % 5;
+            if (Math.abs(row) < 0.5 && Math.abs(column) < 0.5) {
+                return true;
+            }
+        }
+        return false;
     }
 
     private static void cover() {
@@ -599,6 +637,39 @@ public final class BoundaryTest {
         Doc.due("empty after an unfit text", 1, wide.append('x'));
         Doc.raises("malformed", IllegalArgumentException.class, () -> wide.load(1));
         Doc.due("empty after a malformed text", 1, wide.append('.'));
+    }
+
+    private static void text() {
+        Doc.says("A grid is written row by row, with \"/\" between one row and the next; a cell is written as \".\", \"#\", \"o\", \"~\""
+                + " or \"^\" for open, wall, barrier, mud and fire.");
+        String signs = ".#o~^";
+        for (int code = 32; code <= 126; code++) {
+            String sign = String.valueOf((char) code);
+            SkirmishGrid game = new SkirmishGrid();
+            Games.type(game, ".../..." + sign + "/...");
+            SkirmishGrid good = new SkirmishGrid();
+            Games.type(good, ".../.." + sign + "/...");
+            if (signs.contains(sign)) {
+                Doc.due("sign " + sign, 33, good.load(1));
+                Doc.due("the cell " + sign, sign.charAt(0), good.terrain(1, 2));
+            } else {
+                Doc.raises("sign " + sign, IllegalArgumentException.class, () -> good.load(1));
+                Doc.due("where " + sign + " is", 6, good.errorPosition());
+            }
+            Doc.raises("a fourth sign " + sign, IllegalArgumentException.class, () -> game.load(1));
+            Doc.due("where the fourth sign " + sign + " is", sign.equals("/") ? 8 : 7, game.errorPosition());
+        }
+        Doc.says("All rows have the same number of cells.");
+        for (int last = 0; last <= 8; last++) {
+            SkirmishGrid game = new SkirmishGrid();
+            Games.type(game, "..../..../" + ".".repeat(last));
+            if (last == 4) {
+                Doc.due("4, 4 and 4", 34, game.load(1));
+            } else {
+                Doc.raises("4, 4 and " + last, IllegalArgumentException.class, () -> game.load(1));
+                Doc.due("position with 4, 4 and " + last, last < 4 ? 10 + last : 14, game.errorPosition());
+            }
+        }
     }
 
     private static boolean isGrid(String text) {
@@ -668,5 +739,68 @@ public final class BoundaryTest {
             Doc.due("malformed: " + text, "IllegalArgumentException", answer);
             Doc.due("position in " + text, due, game.errorPosition());
         }
+    }
+
+    private static void lastErrorPosition() {
+        Doc.says("Returns the error position of the last text that was malformed.");
+        SkirmishGrid game = new SkirmishGrid();
+        Doc.raises("none yet", NoSuchElementException.class, () -> game.errorPosition());
+        for (String text : new String[] {".../.../...", "........./........./.........", "..", ".../.../.../.../.../.../.../.../..."}) {
+            Games.type(game, text);
+            Probe.answer(() -> game.load(1));
+            Doc.raises("none after " + text, NoSuchElementException.class, () -> game.errorPosition());
+        }
+        String[] texts = {"...x", "x", ".../.../...", "..", "", ".../.../..", ".../.../..."};
+        int[] positions = {3, 0, 0, 0, 0, 10, 10};
+        for (int i = 0; i < texts.length; i++) {
+            Games.type(game, texts[i]);
+            Probe.answer(() -> game.load(1));
+            Doc.due("after \"" + texts[i] + "\"", positions[i], game.errorPosition());
+        }
+    }
+
+    private static void startsAnew() {
+        Doc.says("Starts anew with the grid in the input buffer: there are no units, no events and no commands, and the fight has not begun."
+                + " The rows of healths and the snapshot stay.");
+        SkirmishGrid game = Games.with(new SkirmishGrid(), Games.man(0, 0, 0), Games.man(1, 2, 24));
+        game.begin();
+        game.guard();
+        game.storeHealths(0, true);
+        game.storeHealths(1, false);
+        game.snapshot();
+        Games.type(game, "..../..../....");
+        Doc.due("loaded", 34, game.load(-5));
+        Doc.due("units", 0, game.unitCount());
+        Doc.due("events", 0, game.eventCount());
+        Doc.due("commands", 0, game.commandCount());
+        Doc.due("condition and round", "0 0", game.condition() + " " + game.round());
+        Doc.raises("nothing to undo", IllegalStateException.class, () -> game.undo());
+        Doc.raises("nothing to replay", IllegalStateException.class, () -> game.isReplayed());
+        Doc.raises("no order", NoSuchElementException.class, () -> game.order(0));
+        Games.with(game, Games.man(0, 3, 0), Games.man(1, 3, 11));
+        Doc.raises("nobody has a turn", NoSuchElementException.class, () -> game.current());
+        Doc.raises("no commands yet", UnsupportedOperationException.class, () -> game.guard());
+        Doc.due("no turn, roll or status of the old units", "0 0 0 0 0 0", game.unit(0, 6) + " " + game.unit(0, 7) + " " + game.unit(0, 8)
+                + " " + game.unit(0, 9) + " " + game.unit(0, 10) + " " + game.unit(0, 11));
+        game.begin();
+        Doc.due("the new seed", 6 + die(-5, 1, 6), game.unit(0, 7));
+        Doc.due("the first round again", "9,-1,1", Games.events(game));
+        Doc.due("a row of ints", Float.floatToIntBits(18.0f), game.storedBits(0, 1));
+        Doc.due("a row of floats", Float.floatToIntBits(1.0f), game.storedBits(1, 1));
+        Doc.raises("they are still of different types", UnsupportedOperationException.class, () -> game.copyHealths(0, 1));
+        Doc.due("the snapshot", 2, game.restore());
+        Doc.due("its grid", '.', game.terrain(4, 4));
+        Doc.due("its guard", 1, game.unit(0, 10));
+        SkirmishGrid statuses = Games.with(Games.on("^../.../...", Games.seedWhere(6, 6, 6, 1, 6, 5)), Games.man(0, 1, 1), Games.man(1, 2, 8));
+        statuses.begin();
+        statuses.throwAt(1);
+        statuses.move(0);
+        Doc.due("stunned and burning before", "1 2", statuses.unit(0, 8) + " " + statuses.unit(0, 9));
+        Games.type(statuses, "..../..../....");
+        statuses.load(1);
+        Games.with(statuses, Games.man(1, 0, 0), Games.man(0, 0, 11));
+        Doc.due("neither afterwards", "0 0", statuses.unit(0, 8) + " " + statuses.unit(0, 9));
+        statuses.begin();
+        Doc.due("nor in the fight", true, statuses.unit(0, 8) == 0 && statuses.unit(statuses.current(), 6) == 2);
     }
 }

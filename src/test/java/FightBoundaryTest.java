@@ -19,6 +19,7 @@ public final class FightBoundaryTest {
         loss();
         pathCosts();
         pathChoice();
+        stepByStep();
         fireOnTheWay();
         whoReacts();
         reactionThatHits();
@@ -32,7 +33,10 @@ public final class FightBoundaryTest {
         latestCommands();
         details();
         roundAndCondition();
+        properties();
         lookingAhead();
+        chances();
+        bestTarget();
         answersOfCommands();
         undo();
         rows();
@@ -212,6 +216,43 @@ public final class FightBoundaryTest {
         Doc.due("round the barriers", "0 6", round.pathCell(9, 0) + " " + round.costs(9));
     }
 
+    private static void stepByStep() {
+        Doc.says("A unit moves along the path to a cell, cell by cell.");
+        for (int from = 0; from < 9; from++) {
+            for (int to = 0; to < 9; to++) {
+                for (String text : new String[] {".../.../...", ".#./.../...", "..#/#../..."}) {
+                    walk(text, from, to);
+                }
+            }
+        }
+        // Fire burns in the cell 0 too, on the way from the cell 1 to the cell 2 of the next row.
+        SkirmishGrid corner = Games.with(Games.on("^.#/.##/...", 1), Games.man(0, 0, 1), Games.man(1, 2, 8));
+        corner.begin();
+        Doc.due("through the cell 0", 3, corner.move(3));
+        Doc.due("it burns", 2, corner.unit(0, 9));
+    }
+
+    /** A heavy stands in the way, on the first free cell that is neither of both. */
+    private static void walk(String text, int from, int to) {
+        String signs = text.replace("/", "");
+        if (from == to || signs.charAt(from) == '#' || signs.charAt(to) == '#') {
+            return;
+        }
+        int other = 0;
+        while (other == from || other == to || signs.charAt(other) == '#') {
+            other++;
+        }
+        SkirmishGrid game = Games.with(Games.on(text, 1), Games.man(0, 0, from), Games.man(1, 2, other));
+        game.begin();
+        if (Probe.answer(() -> game.costs(to)).equals("NoSuchElementException")) {
+            Doc.raises("no path", IllegalArgumentException.class, () -> game.move(to));
+        } else {
+            Doc.due(text + " from " + from + " to " + to, to, game.move(to));
+            Doc.due("cell", to, game.unit(0, 2));
+            Doc.due("event", "1,0," + to, tail(game, 1));
+        }
+    }
+
     private static void fireOnTheWay() {
         Doc.says("When it enters a cell with fire, the duration of its burning becomes 2.");
         SkirmishGrid game = Games.with(Games.on("^.^./####/....", 1), Games.man(0, 0, 0), Games.man(1, 2, 11));
@@ -259,6 +300,17 @@ public final class FightBoundaryTest {
         idle.endTurn();
         idle.move(4);
         Doc.due("no reaction without watching", "1,1,4", tail(idle, 1));
+        SkirmishGrid least = duel("...../...../.....", Games.man(0, 3, 0), Games.man(1, 2, 4), 20, 2, 4, 1, 20, 2, 4, 1);
+        least.attack(1);
+        least.attack(1);
+        Doc.due("one is left", 1, least.unit(0, 4));
+        until(least, 1);
+        least.endTurn();
+        until(least, 0);
+        least.watch();
+        until(least, 1);
+        least.move(9);
+        Doc.due("1 ammunition is enough for a reaction", "0 0", least.unit(0, 4) + " " + least.unit(0, 11));
         SkirmishGrid once = watching(WIDE, Games.man(0, 0, 0), Games.man(1, 1, 5), 20, 1);
         Doc.due("it goes on after a miss", 1, once.move(1));
         Doc.due("one reaction alone", "9,-1,1 7,0,1 3,0,1 1,1,1", Games.events(once));
@@ -309,6 +361,9 @@ public final class FightBoundaryTest {
         SkirmishGrid none = twoWatchers(20, 1, 20, 1);
         Doc.due("both miss", 13, none.move(13));
         Doc.due("it has gone through the fire", 2, none.unit(2, 9));
+        SkirmishGrid little = watching("...../...../.....", Games.man(0, 0, 0), Games.man(1, 2, 4), 20, 15, 4, 1);
+        Doc.due("with a damage of 1 too", 3, little.move(2));
+        Doc.due("health", 17, little.unit(1, 3));
         SkirmishGrid last = twoWatchers(20, 15, 4, 1);
         Doc.due("in the last cell it makes no difference", 11, last.move(11));
         Doc.due("but for the hit", 12 - 3, last.unit(2, 3));
@@ -456,6 +511,7 @@ public final class FightBoundaryTest {
         game.move(1);
         Doc.due("39", 39, game.eventCount());
         game.endTurn();
+        String before = Games.events(game);
         game.endTurn();
         // The round's event is the 40th one, and the one of the burning the 41st.
         Doc.due("40 of 41", 40, game.eventCount());
@@ -465,6 +521,7 @@ public final class FightBoundaryTest {
         game.undo();
         Doc.due("39 after undo", 39, game.eventCount());
         Doc.due("the oldest one is back", 1, game.event(0, 2));
+        Doc.due("all others too", before, Games.events(game));
         Doc.raises("index 39 after undo", IndexOutOfBoundsException.class, () -> game.event(39, 0));
     }
 
@@ -617,7 +674,106 @@ public final class FightBoundaryTest {
         Doc.due("8 to 19 hit for 18 in all, and 20 for 36", (12 * 18 + 36) / 80.0, weak.meanDamage(0, 1));
     }
 
+    private static void properties() {
+        Doc.says("8 for the duration of being stunned, 9 for that of burning, 10 for 1 if it guards, otherwise 0, 11 for 1 if it watches,"
+                + " otherwise 0");
+        SkirmishGrid game = duel(".^./.../...", Games.man(0, 1, 0), Games.man(1, 2, 8), 6, 5);
+        game.throwAt(0);
+        Doc.due("stunned", "1 0 0 0", game.unit(0, 8) + " " + game.unit(0, 9) + " " + game.unit(0, 10) + " " + game.unit(0, 11));
+        game.move(1);
+        Doc.due("burning too", "1 2 0 0", game.unit(0, 8) + " " + game.unit(0, 9) + " " + game.unit(0, 10) + " " + game.unit(0, 11));
+        game.undo();
+        game.guard();
+        Doc.due("guarding", "1 0 1 0", game.unit(0, 8) + " " + game.unit(0, 9) + " " + game.unit(0, 10) + " " + game.unit(0, 11));
+        game.undo();
+        game.watch();
+        Doc.due("watching", "1 0 0 1", game.unit(0, 8) + " " + game.unit(0, 9) + " " + game.unit(0, 10) + " " + game.unit(0, 11));
+        Doc.says("Returns the unit that has the first turn.");
+        for (int first = 1; first <= 6; first++) {
+            for (int second = 1; second <= 6; second++) {
+                SkirmishGrid two = Games.with(Games.on(".../.../...", Games.seedWhere(6, first, 6, second)), Games.man(0, 1, 0),
+                        Games.man(1, 3, 8));
+                int due = first + 5 >= second + 6 ? 0 : 1;
+                Doc.due("rolls " + (first + 5) + " and " + (second + 6), due, two.begin());
+                Doc.due("current", due, two.current());
+                Doc.due("order", due + " " + (1 - due), two.order(0) + " " + two.order(1));
+            }
+        }
+    }
+
+    private static void chances() {
+        Doc.says("the number of results of the die with 20 sides with which it hits, divided by 20, both converted to double.");
+        Doc.says("the sum of the damages, 0 if it misses, over all pairs of results of both dice, divided by 80, both converted to double.");
+        String[] grids = {"......../......../........", "......../......../oooooooo", "......../......../########"};
+        for (int kind = 0; kind < 4; kind++) {
+            for (int other = 0; other < 4; other++) {
+                for (int cover = 0; cover < 3; cover++) {
+                    for (int column = 1; column <= new int[] {5, 6, 4, 7}[kind]; column++) {
+                        // What is below the target covers it against those below alone.
+                        SkirmishGrid game = Games.with(Games.on(grids[cover], 1), Games.man(0, kind, 8), Games.man(1, other, 8 + column));
+                        lookAt("in the open", game, kind, other, 8 + column - AIM[kind]);
+                    }
+                    SkirmishGrid near = Games.with(Games.on(grids[cover].substring(18) + "/......../........", 1),
+                            Games.man(0, kind, 8 + 7), Games.man(1, other, 8 + 4));
+                    lookAt("beside the cover", near, kind, other, 8 + 3 - AIM[kind]);
+                    String above = new String[] {".", "o", "#"}[cover];
+                    SkirmishGrid covered = Games.with(Games.on("......../.." + above + "...../........", 1), Games.man(0, kind, 8),
+                            Games.man(1, other, 18));
+                    lookAt("in the cover " + cover, covered, kind, other, 8 + 2 + 3 * cover - AIM[kind]);
+                }
+            }
+        }
+    }
+
+    /** A result of at least this number hits, but for 1 and 20. */
+    private static void lookAt(String what, SkirmishGrid game, int kind, int other, int needed) {
+        int hits = 0;
+        int sum = 0;
+        for (int result = 1; result <= 20; result++) {
+            if (result == 20 || result != 1 && result >= needed) {
+                hits++;
+                for (int second = 1; second <= 4; second++) {
+                    sum += Math.max(1, second + POWER[kind] - ARMOR[other]) * (result == 20 ? 2 : 1);
+                }
+            }
+        }
+        Doc.due(what + ", chance of " + kind + " against " + other, (double) hits / (double) 20, game.chance(0, 1));
+        Doc.due(what + ", mean damage of " + kind + " against " + other, (double) sum / (double) 80, game.meanDamage(0, 1));
+    }
+
+    private static void bestTarget() {
+        Doc.says("of several, the one with the least health; and of several of these, the one with the lowest number.");
+        // A soldier has soldiers around it, all at the distance 1; a grenade and hits make their healths differ.
+        SkirmishGrid equal = Games.with(Games.on("...../...../.....", Games.seedWhere(6, 6, 6, 1, 6, 1, 6, 1, 20, 15, 4, 1, 20, 15, 4, 1)),
+                Games.man(0, 1, 7), Games.man(1, 1, 6), Games.man(1, 1, 8), Games.man(1, 1, 2));
+        Doc.due("the soldier is first", 0, equal.begin());
+        Doc.due("equal healths", 1, equal.bestTarget());
+        equal.attack(3);
+        Doc.due("the least health", 3, equal.bestTarget());
+        equal.attack(2);
+        Doc.due("two with the least health", "9 9", equal.unit(2, 3) + " " + equal.unit(3, 3));
+        Doc.due("the lowest number of them, with no actions", 2, equal.bestTarget());
+        SkirmishGrid damage = Games.with(Games.on("...../...../.....", Games.seedWhere(6, 6, 6, 1, 6, 1)),
+                Games.man(0, 1, 7), Games.man(1, 2, 6), Games.man(1, 1, 9));
+        until(begun(damage), 0);
+        Doc.due("the greater mean damage comes first", 2, damage.bestTarget());
+        Doc.due("though it is farther", true, damage.chance(0, 2) < damage.chance(0, 1));
+        SkirmishGrid unseen = Games.with(Games.on("...../..#../.....", Games.seedWhere(6, 6, 6, 1, 6, 1)),
+                Games.man(0, 1, 2), Games.man(1, 3, 12), Games.man(1, 2, 3));
+        until(begun(unseen), 0);
+        Doc.due("only those that it can attack", 2, unseen.bestTarget());
+        SkirmishGrid zero = Games.with(Games.on(".../.../...", 1), Games.man(0, 2, 0), Games.man(1, 0, 8));
+        Doc.due("the scout is first", 1, zero.begin());
+        Doc.due("unit 0", 0, zero.bestTarget());
+        SkirmishGrid first = Games.with(Games.on(".../.../...", 1), Games.man(0, 2, 0), Games.man(1, 0, 4), Games.man(0, 2, 8));
+        Doc.due("the scout is first", 1, first.begin());
+        Doc.due("unit 0 before an equal one", 0, first.bestTarget());
+    }
+
     private static void answersOfCommands() {
+        Doc.says("Returns the damage, 0 if it misses.");
+        Doc.due("hit", 1 + 3 - 1, duel(".../.../...", Games.man(0, 1, 0), Games.man(1, 1, 8), 20, 15, 4, 1).attack(1));
+        Doc.due("missed", 0, duel(".../.../...", Games.man(0, 1, 0), Games.man(1, 1, 8), 20, 2).attack(1));
         Doc.says("Lets the unit that has its turn get all ammunition of the beginning, for 1 action. Returns the ammunition that it had.");
         SkirmishGrid game = duel(".../.../...", Games.man(0, 3, 0), Games.man(1, 2, 8), 20, 1, 20, 1);
         Doc.due("full", 3, game.reload());
@@ -670,8 +826,78 @@ public final class FightBoundaryTest {
         Doc.due("row", 0, game.storedBits(0, 1));
         game.restore();
         Doc.due("snapshot", 2, game.condition());
-        Doc.says("Returns whether everything is the same.");
+        Doc.says("compares the outcome with the present units, their turns, z, and the events. The state stays as it is. Returns whether"
+                + " everything is the same.");
         Doc.due("after restore", true, game.isReplayed());
+        SkirmishGrid asked = duel(".^./.../...", Games.man(0, 0, 0), Games.man(1, 2, 8), 20, 15, 4, 1);
+        SkirmishGrid twin = duel(".^./.../...", Games.man(0, 0, 0), Games.man(1, 2, 8), 20, 15, 4, 1);
+        for (int i = 0; i < 6; i++) {
+            Doc.due("before and after " + i + " commands", true, asked.isReplayed());
+            Doc.due("the same answer", command(twin, i), command(asked, i));
+            Doc.due("the same state", Games.state(twin), Games.state(asked));
+        }
+        everyCommand();
+        Doc.says("Carries out all commands once more, from the beginning of the fight on,");
+        Doc.due("the same undo", twin.undo(), asked.undo());
+        Doc.due("the same state after undo", Games.state(twin), Games.state(asked));
+        Doc.due("replayed after undo", true, asked.isReplayed());
+    }
+
+    /** A fight of six units with fire, whose commands are told by a number; refused ones are part of it. */
+    private static SkirmishGrid brawl(int seed, int commands) {
+        SkirmishGrid game = Games.with(Games.on("..^.../.o..~./..#.../.^..o.", seed), Games.man(1, 1, 4), Games.man(0, 0, 0),
+                Games.man(1, 3, 23), Games.man(0, 2, 12), Games.man(1, 0, 11), Games.man(0, 1, 19));
+        game.begin();
+        for (int number = 0; number < commands; number++) {
+            brawlOn(game, seed + number);
+        }
+        return game;
+    }
+
+    private static String brawlOn(SkirmishGrid game, int number) {
+        int any = (number * 0x9E3779B1) >>> 8;
+        int cell = any / 16 % 24;
+        switch (any % 9) {
+            case 0: case 1: return Probe.answer(() -> game.attack(game.bestTarget()));
+            case 2: case 3: return Probe.answer(() -> game.move(cell));
+            case 4: return Probe.answer(() -> game.throwAt(cell));
+            case 5: return Probe.answer(() -> game.watch());
+            case 6: return Probe.answer(() -> any % 2 == 0 ? game.guard() : game.reload());
+            default: return Probe.answer(() -> game.endTurn());
+        }
+    }
+
+    /** Each command of some fights, with an object of its own as it takes many calls to look at everything. */
+    private static void everyCommand() {
+        Doc.says("is as it was before it.");
+        for (int seed = 1; seed <= 8; seed++) {
+            for (int count = 0; count < 90; count += 1 + count / 30) {
+                String before = Games.state(brawl(seed, count));
+                SkirmishGrid game = brawl(seed, count);
+                int commands = game.commandCount();
+                String answer = brawlOn(game, seed + count);
+                String what = "command " + count + " of the fight " + seed;
+                if (game.commandCount() == commands) {
+                    Doc.due(what + ", which is refused", before, Games.state(game));
+                    continue;
+                }
+                game.undo();
+                Doc.due(what, before, Games.state(game));
+                Doc.due(what + " again", answer, brawlOn(game, seed + count));
+                Doc.due(what + ", replayed", true, game.isReplayed());
+            }
+        }
+    }
+
+    private static int command(SkirmishGrid game, int number) {
+        switch (number) {
+            case 0: return game.attack(1);
+            case 1: return game.move(1);
+            case 2: return game.endTurn();
+            case 3: return game.throwAt(0);
+            case 4: return game.watch();
+            default: return game.endTurn();
+        }
     }
 
     private static void rows() {
@@ -714,6 +940,7 @@ public final class FightBoundaryTest {
         won.storeHealths(0, true);
         won.storeHealths(1, false);
         Doc.due("0 as an int and as a float", 0, won.storedBits(0, 1) | won.storedBits(1, 1));
+        Doc.says("false for a row of floats, with the healths divided by the healths at the beginning, both converted to float");
         shares();
     }
 
@@ -769,6 +996,31 @@ public final class FightBoundaryTest {
         Doc.due("state again", state, Games.state(game));
         Doc.due("grid", '#', game.terrain(0, 0));
         Doc.due("replayed", true, game.isReplayed());
+        Doc.says("Takes a snapshot of the grid, the units, the fight, z, the events and the commands.");
+        for (int seed = 1; seed <= 8; seed++) {
+            String what = "fight " + seed;
+            SkirmishGrid fight = brawl(seed, 40);
+            fight.snapshot();
+            for (int i = 0; i < 6; i++) {
+                fight.undo();
+                brawlOn(fight, 1000 + i);
+            }
+            Games.type(fight, "....../....../......");
+            fight.load(seed + 1);
+            Games.with(fight, Games.man(0, 3, 17), Games.man(1, 0, 3), Games.man(0, 3, 5), Games.man(1, 3, 8), Games.man(0, 0, 0));
+            fight.begin();
+            for (int i = 0; i < 30; i++) {
+                brawlOn(fight, 2000 + i);
+            }
+            Doc.due(what + ", units", 6, fight.restore());
+            Doc.due(what + ", state", Games.state(brawl(seed, 40)), Games.state(fight));
+            Doc.due(what + ", replayed", true, fight.isReplayed());
+            Doc.due(what + ", grid", "^o~#", "" + fight.terrain(0, 2) + fight.terrain(1, 1) + fight.terrain(1, 4) + fight.terrain(2, 2));
+            SkirmishGrid twin = brawl(seed, 40);
+            for (int i = 40; i < 60; i++) {
+                Doc.due(what + ", what follows", brawlOn(twin, seed + i), brawlOn(fight, seed + i));
+            }
+        }
         Doc.says("It replaces an earlier one. Returns the number of units.");
         SkirmishGrid empty = new SkirmishGrid();
         Doc.due("no units", 0, empty.snapshot());
