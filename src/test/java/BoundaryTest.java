@@ -23,6 +23,7 @@ public final class BoundaryTest {
         neighbors();
         distance();
         unitLimit();
+        fullSkirmish();
         kinds();
         lives();
         deadUnits();
@@ -42,6 +43,7 @@ public final class BoundaryTest {
         errorPosition();
         lastErrorPosition();
         startsAnew();
+        oldUnits();
         Check.finish();
     }
 
@@ -196,6 +198,44 @@ public final class BoundaryTest {
         Doc.raises("no move onto a friend", IllegalArgumentException.class, () -> grounds.move(grounds.current() == 0 ? 3 : 0));
     }
 
+    /** Everything is at its greatest here: 64 cells, 8 units, the last of which is alone in its team. */
+    private static void fullSkirmish() {
+        Doc.says("There are at most 8 units, numbered from 0 in the order in which they were added.");
+        String row = "........";
+        SkirmishGrid game = Games.on(String.join("/", row, row, row, row, row, row, row, row), 9);
+        for (int unit = 0; unit < 7; unit++) {
+            game.addUnit(0, 2, unit);
+        }
+        game.addUnit(1, 0, 48);
+        Doc.due("the scout is first", 7, game.begin());
+        Doc.due("goes on while unit 7 lives", 1, game.condition());
+        Doc.due("costs to the last cell", 8, game.costs(63));
+        Doc.due("path to the last cell", "49 63", game.pathCell(63, 0) + " " + game.pathCell(63, 7));
+        Doc.raises("index 8", NoSuchElementException.class, () -> game.pathCell(63, 8));
+        Doc.due("last place of the order", true, game.order(7) < 7);
+        Doc.raises("place 8", NoSuchElementException.class, () -> game.order(8));
+        Doc.raises("all too far", NoSuchElementException.class, () -> game.bestTarget());
+        Doc.due("a grenade for unit 7 alone", 1, game.throwAt(57));
+        game.watch();
+        game.endTurn();
+        until(game, 0);
+        Doc.due("to the distance 5", 8, game.move(8));
+        Doc.due("unit 7 reacts", "7,7,0", Games.events(game).replaceAll(".* (7,.,.) .*", "$1"));
+        Doc.due("replayed", true, game.isReplayed());
+        Doc.due("rows of 8", 16, game.storeHealths(0, true) + game.storeHealths(1, true));
+        Doc.due("the last element", Float.floatToIntBits(5.0f), game.storedBits(0, 7));
+        Doc.due("all 8 are the same", false, game.copyHealths(0, 8));
+        Doc.due("mean health of one", 5.0f, game.meanHealth(1));
+        String state = Games.state(game);
+        Doc.due("snapshot of 8", 8, game.snapshot());
+        game.endTurn();
+        game.undo();
+        Doc.due("after undo", state, Games.state(game));
+        game.endTurn();
+        Doc.due("restore of 8", 8, game.restore());
+        Doc.due("after restore", state, Games.state(game));
+    }
+
     private static String sorted(String text) {
         char[] signs = text.toCharArray();
         java.util.Arrays.sort(signs);
@@ -341,6 +381,20 @@ public final class BoundaryTest {
         middle.attack(1);
         Doc.due("the dead one in the middle gets no turn", 2, middle.endTurn());
         Doc.due("in the same round", 1, middle.round());
+        Doc.due("it has died once", "9,-1,1 2,0,16 4,1,0", Games.events(middle));
+        // It guards and burns since round 1, and dies in round 2 before its turn, which would stop the guard.
+        SkirmishGrid guarding = Games.with(Games.on(".^./.../...", Games.seedWhere(6, 6, 6, 5, 6, 1, 6, 6, 6, 5, 6, 1, 20, 20, 4, 4)),
+                Games.man(0, 3, 0), Games.man(1, 3, 2), Games.man(1, 2, 8));
+        guarding.begin();
+        guarding.endTurn();
+        guarding.move(1);
+        guarding.guard();
+        guarding.endTurn();
+        guarding.endTurn();
+        guarding.attack(1);
+        Doc.due("the dead one gets no turn in round 2", 2, guarding.endTurn());
+        Doc.due("it does not burn, and its guard does not stop", "9,-1,1 1,1,1 9,-1,2 2,0,16 4,1,0 | 1 1", Games.events(guarding) + " | "
+                + guarding.unit(1, 9) + " " + guarding.unit(1, 10));
     }
 
     private static void beginningOfATurn() {
@@ -802,5 +856,65 @@ public final class BoundaryTest {
         Doc.due("neither afterwards", "0 0", statuses.unit(0, 8) + " " + statuses.unit(0, 9));
         statuses.begin();
         Doc.due("nor in the fight", true, statuses.unit(0, 8) == 0 && statuses.unit(statuses.current(), 6) == 2);
+    }
+
+    /** The third unit of the game before lives, watches and has ammunition; it is no unit of the next game. */
+    private static void oldUnits() {
+        Doc.says("there are no units, no events and no commands, and the fight has not begun.");
+        SkirmishGrid one = withWatchers();
+        Games.type(one, "...../...../...../...../.....");
+        one.load(1);
+        Doc.due("no team has units", "ArithmeticException ArithmeticException", Probe.answer(() -> one.meanHealth(0)) + " "
+                + Probe.answer(() -> one.meanHealth(1)));
+        Games.with(one, Games.man(0, 0, 11), Games.man(0, 0, 13));
+        Doc.raises("no unit of team 1", IllegalStateException.class, () -> one.begin());
+        Doc.due("its cell is free", 2, one.addUnit(1, 0, 12));
+        SkirmishGrid two = withWatchers();
+        Games.type(two, "...#./...##/...../...../.....");
+        two.load(1);
+        Games.with(two, Games.man(0, 0, 11), Games.man(1, 2, 4));
+        lookForOldUnits(two);
+        Doc.says("Restores all that from the snapshot, which stays available.");
+        SkirmishGrid restored = Games.with(Games.on("...#./...##/...../...../.....", 1), Games.man(0, 0, 11), Games.man(1, 2, 4));
+        restored.snapshot();
+        Games.type(restored, "...../...../...../...../.....");
+        restored.load(1);
+        watchAll(restored);
+        Doc.due("two units", 2, restored.restore());
+        lookForOldUnits(restored);
+    }
+
+    private static SkirmishGrid withWatchers() {
+        SkirmishGrid game = new SkirmishGrid();
+        watchAll(game);
+        return game;
+    }
+
+    private static void watchAll(SkirmishGrid game) {
+        Games.with(game, Games.man(0, 0, 0), Games.man(1, 3, 24), Games.man(1, 3, 12), Games.man(1, 3, 14), Games.man(1, 3, 10));
+        game.begin();
+        for (int turn = 0; turn < 5; turn++) {
+            game.watch();
+            if (turn < 4) {
+                game.endTurn();
+            }
+        }
+        Doc.due("the third one lives and watches", "7 1", game.unit(2, 3) + " " + game.unit(2, 11));
+    }
+
+    /** A scout at 11 and a heavy that it cannot see, and nobody else. */
+    private static void lookForOldUnits(SkirmishGrid game) {
+        Doc.due("two units", 2, game.unitCount());
+        Doc.raises("no third unit", IndexOutOfBoundsException.class, () -> game.unit(2, 0));
+        Doc.due("the scout is first", 0, game.begin());
+        Doc.raises("no third place of the order", NoSuchElementException.class, () -> game.order(2));
+        Doc.raises("no target", NoSuchElementException.class, () -> game.bestTarget());
+        Doc.due("nobody in the way", 1, game.costs(12));
+        Doc.due("nobody stops it", 12, game.move(12));
+        Doc.due("nobody reacts", "9,-1,1 1,0,12", Games.events(game));
+        Doc.due("a grenade for the scout alone", 1, game.throwAt(13));
+        Doc.due("replayed", true, game.isReplayed());
+        Doc.due("two healths", 2, game.storeHealths(0, true));
+        Doc.due("mean health", 18.0f, game.meanHealth(1));
     }
 }

@@ -213,6 +213,14 @@ public final class FightBoundaryTest {
         // The way round costs 5, straight through three barriers and a cell 7.
         SkirmishGrid round = Games.with(Games.on("...../.ooo./.....", 1), Games.man(0, 0, 5), Games.man(1, 2, 14));
         round.begin();
+        // From the cell 0 the way would be as cheap as from the cell 3 below it, but nobody can go there.
+        String[] corners = {"#~./.../...", ".~./.../..."};
+        for (int i = 0; i < 2; i++) {
+            SkirmishGrid shut = Games.with(Games.on(corners[i], 1), Games.man(0, 0, 3), Games.man(1, 2, i == 0 ? 8 : 0));
+            shut.begin();
+            Doc.due(i == 0 ? "not over a wall" : "not over a living unit", "3 4 5 2", shut.costs(2) + " " + shut.pathCell(2, 0) + " "
+                    + shut.pathCell(2, 1) + " " + shut.pathCell(2, 2));
+        }
         Doc.due("round the barriers", "0 6", round.pathCell(9, 0) + " " + round.costs(9));
     }
 
